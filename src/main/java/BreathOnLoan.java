@@ -417,24 +417,20 @@ public final class BreathOnLoan {
     }
 
     private int addBubble(int piece, int blower, int n) {
-        if (now.stateOf(piece) != BLOWN || !now.crew.has(blower) || !within(n, 1, 9)
-                || now.bench.bubbles >= MOST_BUBBLES || !hasBreath(blower, n)) {
+        Bench bench = now.bench;
+        if (now.stateOf(piece) != BLOWN || !now.crew.has(blower) || !within(n, 1, 9) || bench.bubbles >= MOST_BUBBLES) {
             return NONE;
         }
-        int price = n * judge.costOf(now, blower, now.bench.hour);
-        if (price > now.crew.beads[blower]) {
+        int price = n * judge.costOf(now, blower, bench.hour);
+        if (bench.sum(NONE, blower, bench.hour) + n > now.crew.lungs[blower]
+                || bench.sum(NONE, NONE, bench.hour) + n > judge.smokeIn(now, bench.hour)
+                || price > now.crew.beads[blower]) {
             return NONE;
         }
-        now.bench.addBubble(piece, blower, n);
+        bench.logBubble(piece, blower, n);
         int row = now.steps.push(STEP_BUBBLE, piece);
         giveBeads(row, blower, -price);
         return now.stateOf(piece);
-    }
-
-    private boolean hasBreath(int blower, int n) {
-        int hour = now.bench.hour;
-        return now.bench.sum(NONE, blower, hour) + n <= now.crew.lungs[blower]
-                && now.bench.sum(NONE, NONE, hour) + n <= judge.smokeIn(now, hour);
     }
 
     /** Each step keeps what it did to the beads, so that it can be taken back. */
@@ -654,7 +650,7 @@ public final class BreathOnLoan {
             return p >= 0 && p < pieces;
         }
 
-        void addBubble(int p, int b, int n) {
+        void logBubble(int p, int b, int n) {
             if (bubbles < MOST_BUBBLES) {
                 log[4 * bubbles] = p;
                 log[4 * bubbles + 1] = b;
@@ -966,18 +962,14 @@ public final class BreathOnLoan {
             rows[row] = word;
             advance();
             if (isLaw) {
-                parseLaw(word - LAW_WORDS);
+                law = word - LAW_WORDS;
+                lawFrom[law] = size;
+                parseSum();
+                lawTo[law] = size;
             } else {
                 parseDeed(word, row);
             }
             expect(SEMICOLON);
-        }
-
-        private void parseLaw(int which) {
-            law = which;
-            lawFrom[which] = size;
-            parseSum();
-            lawTo[which] = size;
         }
 
         private void parseDeed(int word, int row) {
