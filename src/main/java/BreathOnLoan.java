@@ -226,7 +226,7 @@ public final class BreathOnLoan {
             return OTHER;
         }
         for (int i = 0; i < script.clauses(); i++) {
-            if (!canPerform(script, i)) {
+            if (!perform(script, i)) {
                 return i;
             }
         }
@@ -472,7 +472,8 @@ public final class BreathOnLoan {
         return paid;
     }
 
-    private boolean canPerform(Text script, int clause) {
+    /** Answers whether the clause could be. */
+    private boolean perform(Text script, int clause) {
         switch (script.orderOf(clause, 0)) {
             case BEGIN:
                 return startPiece(script.orderOf(clause, 1)) != NONE;
@@ -501,7 +502,9 @@ public final class BreathOnLoan {
                 now.bench.hour--;
                 break;
             default:
-                now.bench.sold[rows[row + Steps.PIECE]] = 0;
+                if (now.bench.has(rows[row + Steps.PIECE])) {
+                    now.bench.sold[rows[row + Steps.PIECE]] = 0;
+                }
                 break;
         }
     }

@@ -168,6 +168,16 @@ public final class PieceTest {
         CHECK.same("by 99 and 54 of 153", x.sell(0), 64 + 35);
         CHECK.same("64 more", x.of(0, 2), 154);
         CHECK.same("35 more", x.of(1, 2), 40);
+        BreathOnLoan z = Check.ruledBy("share if blower=0?1000:1 end;cost 0;");
+        z.blower(9, 0, 0);
+        z.blower(9, 0, 0);
+        z.kind(2, 0, 999);
+        z.begin(0);
+        z.blow(0, 0, 1);
+        z.blow(0, 1, 1);
+        CHECK.same("by 99 and 1 of 100", z.sell(0), 989 + 9);
+        CHECK.same("999 times 99 by 100", z.of(0, 2), 989);
+        CHECK.same("999 times 1 by 100", z.of(1, 2), 9);
         BreathOnLoan y = Check.ruledBy("share 0-breaths;");
         y.blower(9, 0, 9);
         y.kind(2, 0, 100);
