@@ -1,13 +1,33 @@
+import java.util.List;
+import java.util.function.Supplier;
+import java.util.function.ToLongFunction;
+
 /** Counts answers that are not as due, and gives texts to an object. */
 final class Check {
+    /** Far outside of what any number of any call may be; as sets they have no blower, kind or piece alone. */
+    private static final int[] FAR = {Integer.MIN_VALUE, Integer.MIN_VALUE + 1, -65535, 65537, Integer.MAX_VALUE - 1, Integer.MAX_VALUE};
+
+    /** A call with one number left open. */
+    interface Call {
+        long on(BreathOnLoan x, int number);
+    }
+
+    private final Document document = new Document();
+    private String sentence = "";
     private int calls;
     private int wrong;
+
+    /** What follows tests a sentence of a promise, or (0) of the Terms. */
+    void says(int promise, String words) {
+        document.quote(promise, words);
+        sentence = "promise " + promise + " (" + words + "): ";
+    }
 
     void same(String what, long got, long due) {
         calls++;
         if (got != due) {
             wrong++;
-            System.out.println(what + " answered " + got + ", due is " + due);
+            System.out.println(sentence + what + " answered " + got + ", due is " + due);
         }
     }
 
@@ -17,6 +37,36 @@ final class Check {
 
     void no(String what, boolean got) {
         same(what, got ? 1 : 0, 0);
+    }
+
+    /** The call answers what is due, and all that can be seen is as if it had not been made. */
+    void leaves(String what, Supplier<BreathOnLoan> scene, ToLongFunction<BreathOnLoan> call, long due) {
+        for (Look look : Look.values()) {
+            BreathOnLoan x = scene.get();
+            same(what, call.applyAsLong(x), due);
+            List<String> seen = look.at(x);
+            List<String> dueSeen = look.at(scene.get());
+            if (!seen.equals(dueSeen)) {
+                seen.removeAll(dueSeen);
+                no(what + " changed " + look + ": " + seen, true);
+            }
+        }
+    }
+
+    /** The call is refused for these numbers and for those that are far outside, and leaves all as it was. */
+    void refuses(String what, Supplier<BreathOnLoan> scene, Call call, long due, int... numbers) {
+        for (int number : numbers) {
+            leaves(what + " of " + number, scene, x -> call.on(x, number), due);
+        }
+        for (int number : FAR) {
+            leaves(what + " of " + number, scene, x -> call.on(x, number), due);
+        }
+    }
+
+    void tellUnquoted() {
+        for (String words : document.unquoted()) {
+            System.out.println("no test quotes: " + words);
+        }
     }
 
     void finish(String test) {
