@@ -63,6 +63,19 @@ final class Check {
         }
     }
 
+    /** A text, read by a new object, has this fault at this place (0 and NONE: none). */
+    void fault(String text, int due, int place) {
+        BreathOnLoan x = new BreathOnLoan();
+        same("text '" + text + "'", read(x, text), due == 0 ? 0 : -1);
+        same("fault of '" + text + "'", x.fault(0), due);
+        same("place in '" + text + "'", x.fault(1), place);
+    }
+
+    /** A sum in hour 7, which smoke cuts to 0 .. 40. */
+    void sum(String sum, int due) {
+        same(sum, ruledBy("smoke " + sum + ";").smoke(7), due);
+    }
+
     void tellUnquoted() {
         for (String words : document.unquoted()) {
             System.out.println("no test quotes: " + words);

@@ -24,19 +24,7 @@ final class GrammarEdges {
     }
 
     private void stands(String text) {
-        faulty(text, 0, -1);
-    }
-
-    private void faulty(String text, int fault, int place) {
-        BreathOnLoan x = new BreathOnLoan();
-        check.same("text '" + text + "'", Check.read(x, text), fault == 0 ? 0 : -1);
-        check.same("fault of '" + text + "'", x.fault(0), fault);
-        check.same("place in '" + text + "'", x.fault(1), place);
-    }
-
-    private void sum(String sum, int due) {
-        BreathOnLoan x = Check.ruledBy("smoke " + sum + ";");
-        check.same(sum, x.smoke(7), due);
+        check.fault(text, 0, -1);
     }
 
     private void blanks() {
@@ -48,54 +36,54 @@ final class GrammarEdges {
         stands(" ");
         stands("\n");
         for (int b : new int[] {0, 9, 11, 12, 13, 31, 127, 160}) {
-            faulty("smoke" + (char) b + "1;", 1, 5);
-            faulty("smoke 1;" + (char) b, 1, 8);
+            check.fault("smoke" + (char) b + "1;", 1, 5);
+            check.fault("smoke 1;" + (char) b, 1, 8);
         }
-        faulty("smo ke 1;", 1, 0);
-        faulty("smoke 1 2;", 1, 8);
+        check.fault("smo ke 1;", 1, 0);
+        check.fault("smoke 1 2;", 1, 8);
     }
 
     private void words() {
         check.says(0, "letters a .. z, A .. Z one behind the other (one TOKEN)");
         for (char letter : new char[] {'a', 'z', 'A', 'Z', 'm', 'M'}) {
-            faulty("smoke hour" + letter + ";", 1, 6);
-            faulty("smoke " + letter + "hour;", 1, 6);
+            check.fault("smoke hour" + letter + ";", 1, 6);
+            check.fault("smoke " + letter + "hour;", 1, 6);
         }
         for (char sign : new char[] {'@', '[', '`', '{', '_'}) {
-            faulty("smoke hour" + sign + ";", 1, 10);
-            faulty("smoke " + sign + "hour;", 1, 6);
+            check.fault("smoke hour" + sign + ";", 1, 10);
+            check.fault("smoke " + sign + "hour;", 1, 6);
         }
-        faulty("Smoke 1;", 1, 0);
-        faulty("SMOKE 1;", 1, 0);
-        faulty("smok 1;", 1, 0);
-        faulty("smokes 1;", 1, 0);
-        faulty("smoke hou;", 1, 6);
-        faulty("smoke hours;", 1, 6);
-        faulty("smoke Hour;", 1, 6);
-        faulty("smoke" + "e".repeat(294), 1, 0);
+        check.fault("Smoke 1;", 1, 0);
+        check.fault("SMOKE 1;", 1, 0);
+        check.fault("smok 1;", 1, 0);
+        check.fault("smokes 1;", 1, 0);
+        check.fault("smoke hou;", 1, 6);
+        check.fault("smoke hours;", 1, 6);
+        check.fault("smoke Hour;", 1, 6);
+        check.fault("smoke" + "e".repeat(294), 1, 0);
         stands("smoke if 1<2?1:2end;");
-        faulty("smokehour;", 1, 0);
+        check.fault("smokehour;", 1, 0);
     }
 
     private void numbers() {
         check.says(0, "digits likewise (NUMBERS, 0 .. 9999)");
-        sum("0", 0);
-        sum("9", 9);
-        sum("09", 9);
-        sum("0000000000000000000000012", 12);
-        sum("9999-9989", 10);
-        faulty("smoke 10000;", 2, 6);
-        faulty("smoke 010000;", 2, 6);
-        faulty("smoke 65536;", 2, 6);
-        faulty("smoke 4294967296;", 2, 6);
-        faulty("smoke 4294967297;", 2, 6);
-        faulty("smoke 18446744073709551617;", 2, 6);
-        faulty("smoke " + "9".repeat(200) + ";", 2, 6);
-        faulty("smoke 1 2;", 1, 8);
-        faulty("smoke 1a;", 1, 7);
+        check.sum("0", 0);
+        check.sum("9", 9);
+        check.sum("09", 9);
+        check.sum("0000000000000000000000012", 12);
+        check.sum("9999-9989", 10);
+        check.fault("smoke 10000;", 2, 6);
+        check.fault("smoke 010000;", 2, 6);
+        check.fault("smoke 65536;", 2, 6);
+        check.fault("smoke 4294967296;", 2, 6);
+        check.fault("smoke 4294967297;", 2, 6);
+        check.fault("smoke 18446744073709551617;", 2, 6);
+        check.fault("smoke " + "9".repeat(200) + ";", 2, 6);
+        check.fault("smoke 1 2;", 1, 8);
+        check.fault("smoke 1a;", 1, 7);
         stands("smoke 1/2;");
         stands("smoke if 1=2?3:4end;");
-        faulty("smoke .5;", 1, 6);
+        check.fault("smoke .5;", 1, 6);
     }
 
     private void longestSigns() {
@@ -103,22 +91,22 @@ final class GrammarEdges {
         for (String sign : new String[] {"<=", ">=", "<", ">", "=", "#"}) {
             stands("smoke if 1" + sign + "2?3:4 end;");
         }
-        faulty("smoke if 1< =2?3:4 end;", 1, 12);
-        faulty("smoke if 1> =2?3:4 end;", 1, 12);
-        faulty("smoke if 1=<2?3:4 end;", 1, 11);
-        faulty("smoke if 1=>2?3:4 end;", 1, 11);
-        faulty("smoke if 1<<2?3:4 end;", 1, 11);
-        faulty("smoke if 1>>2?3:4 end;", 1, 11);
-        faulty("smoke if 1==2?3:4 end;", 1, 11);
-        faulty("smoke if 1<>2?3:4 end;", 1, 11);
-        faulty("smoke if 1<==2?3:4 end;", 1, 12);
-        faulty("smoke if 1>==2?3:4 end;", 1, 12);
-        faulty("smoke if 1##2?3:4 end;", 1, 11);
-        faulty("smoke if 1<", 1, 11);
-        faulty("smoke if 1<=", 1, 12);
+        check.fault("smoke if 1< =2?3:4 end;", 1, 12);
+        check.fault("smoke if 1> =2?3:4 end;", 1, 12);
+        check.fault("smoke if 1=<2?3:4 end;", 1, 11);
+        check.fault("smoke if 1=>2?3:4 end;", 1, 11);
+        check.fault("smoke if 1<<2?3:4 end;", 1, 11);
+        check.fault("smoke if 1>>2?3:4 end;", 1, 11);
+        check.fault("smoke if 1==2?3:4 end;", 1, 11);
+        check.fault("smoke if 1<>2?3:4 end;", 1, 11);
+        check.fault("smoke if 1<==2?3:4 end;", 1, 12);
+        check.fault("smoke if 1>==2?3:4 end;", 1, 12);
+        check.fault("smoke if 1##2?3:4 end;", 1, 11);
+        check.fault("smoke if 1<", 1, 11);
+        check.fault("smoke if 1<=", 1, 12);
         stands("smoke (1+2-3)*4/5;");
         for (char sign : new char[] {'!', '"', '$', '%', '&', '\'', ',', '.', '\\', ']', '^', '|', '}', '~'}) {
-            faulty("smoke 1" + sign + ";", 1, 7);
+            check.fault("smoke 1" + sign + ";", 1, 7);
         }
     }
 
@@ -130,10 +118,10 @@ final class GrammarEdges {
         stands("wait 1;".repeat(24));
         stands("wait 1;".repeat(24) + " \n ");
         stands("smoke 1;" + "wait 1;".repeat(20) + "cost 1;brittle 1;share 1;");
-        faulty("wait 1;".repeat(25), 6, 168);
-        faulty("wait 1", 1, 6);
-        faulty("wait 1;;", 1, 7);
-        faulty(";", 1, 0);
+        check.fault("wait 1;".repeat(25), 6, 168);
+        check.fault("wait 1", 1, 6);
+        check.fault("wait 1;;", 1, 7);
+        check.fault(";", 1, 0);
         BreathOnLoan x = new BreathOnLoan();
         Check.read(x, "wait 1;".repeat(24));
         check.same("all 24", x.played(0), -1);
@@ -145,10 +133,10 @@ final class GrammarEdges {
         String[] laws = {"smoke", "cost", "brittle", "share"};
         for (String law : laws) {
             stands(law + " 1;");
-            faulty(law + ";", 1, law.length());
-            faulty(law + " 1", 1, law.length() + 2);
-            faulty(law + " 1,", 1, law.length() + 2);
-            faulty(law + " 1;" + law + " 1;", 4, law.length() + 3);
+            check.fault(law + ";", 1, law.length());
+            check.fault(law + " 1", 1, law.length() + 2);
+            check.fault(law + " 1,", 1, law.length() + 2);
+            check.fault(law + " 1;" + law + " 1;", 4, law.length() + 3);
             for (String other : laws) {
                 if (!other.equals(law)) {
                     stands(law + " 1;" + other + " 2;");
@@ -163,115 +151,115 @@ final class GrammarEdges {
         stands("begin 0;begin 0;");
         stands("blow 0 by 0 give 1;blow 0 by 0 give 1;");
         stands("wait 1;wait 1;");
-        faulty("begin;", 1, 5);
-        faulty("begin -1;", 1, 6);
-        faulty("begin (1);", 1, 6);
-        faulty("begin hour;", 1, 6);
-        faulty("begin 1 1;", 1, 8);
-        faulty("begin 1", 1, 7);
-        faulty("blow;", 1, 4);
-        faulty("blow 0;", 1, 6);
-        faulty("blow 0 by;", 1, 9);
-        faulty("blow 0 by 0;", 1, 11);
-        faulty("blow 0 by 0 give;", 1, 16);
-        faulty("blow 0 by 0 give 1", 1, 18);
-        faulty("blow 0 give 1 by 0;", 1, 7);
-        faulty("blow 0 0 give 1;", 1, 7);
-        faulty("blow 0 by 0 1;", 1, 12);
-        faulty("wait;", 1, 4);
-        faulty("wait hour;", 1, 5);
-        faulty("wait 1+1;", 1, 6);
-        faulty("by 1;", 1, 0);
-        faulty("give 1;", 1, 0);
+        check.fault("begin;", 1, 5);
+        check.fault("begin -1;", 1, 6);
+        check.fault("begin (1);", 1, 6);
+        check.fault("begin hour;", 1, 6);
+        check.fault("begin 1 1;", 1, 8);
+        check.fault("begin 1", 1, 7);
+        check.fault("blow;", 1, 4);
+        check.fault("blow 0;", 1, 6);
+        check.fault("blow 0 by;", 1, 9);
+        check.fault("blow 0 by 0;", 1, 11);
+        check.fault("blow 0 by 0 give;", 1, 16);
+        check.fault("blow 0 by 0 give 1", 1, 18);
+        check.fault("blow 0 give 1 by 0;", 1, 7);
+        check.fault("blow 0 0 give 1;", 1, 7);
+        check.fault("blow 0 by 0 1;", 1, 12);
+        check.fault("wait;", 1, 4);
+        check.fault("wait hour;", 1, 5);
+        check.fault("wait 1+1;", 1, 6);
+        check.fault("by 1;", 1, 0);
+        check.fault("give 1;", 1, 0);
     }
 
     private void sums() {
         check.says(0, "SUM: PRODUCT {+ or - PRODUCT}");
-        sum("5", 5);
-        sum("5+6", 11);
-        sum("5-3", 2);
-        sum("1+2+3-4+5", 7);
-        faulty("smoke +5;", 1, 6);
-        faulty("smoke 5+;", 1, 8);
-        faulty("smoke 5-;", 1, 8);
-        faulty("smoke 5++5;", 1, 8);
-        faulty("smoke 5 5;", 1, 8);
+        check.sum("5", 5);
+        check.sum("5+6", 11);
+        check.sum("5-3", 2);
+        check.sum("1+2+3-4+5", 7);
+        check.fault("smoke +5;", 1, 6);
+        check.fault("smoke 5+;", 1, 8);
+        check.fault("smoke 5-;", 1, 8);
+        check.fault("smoke 5++5;", 1, 8);
+        check.fault("smoke 5 5;", 1, 8);
         stands("smoke 5--5;");
     }
 
     private void products() {
         check.says(0, "PRODUCT: ONE {* or / ONE}");
-        sum("5*6", 30);
-        sum("30/6", 5);
-        sum("2*3*4/6*5", 20);
-        sum("2+3*4-8/2", 10);
-        faulty("smoke *5;", 1, 6);
-        faulty("smoke /5;", 1, 6);
-        faulty("smoke 5*;", 1, 8);
-        faulty("smoke 5/;", 1, 8);
-        faulty("smoke 5**5;", 1, 8);
-        faulty("smoke 5*+5;", 1, 8);
-        sum("-5*-5", 25);
+        check.sum("5*6", 30);
+        check.sum("30/6", 5);
+        check.sum("2*3*4/6*5", 20);
+        check.sum("2+3*4-8/2", 10);
+        check.fault("smoke *5;", 1, 6);
+        check.fault("smoke /5;", 1, 6);
+        check.fault("smoke 5*;", 1, 8);
+        check.fault("smoke 5/;", 1, 8);
+        check.fault("smoke 5**5;", 1, 8);
+        check.fault("smoke 5*+5;", 1, 8);
+        check.sum("-5*-5", 25);
     }
 
     private void ones() {
         check.says(0, "ONE: NUMBER, NAME, ( SUM ), - ONE, or if EITHER ? SUM : SUM end");
-        sum("hour", 7);
-        sum("(7)", 7);
-        sum("(3+4)*2", 14);
-        sum("40-(3+4)", 33);
-        sum("-5+9", 4);
-        sum("--5", 5);
-        sum("-(2-9)", 7);
-        sum("-if 1<2?0-5:6 end", 5);
-        sum("if 1<2?5:6 end", 5);
-        sum("if 2<1?5:6 end*2", 12);
-        sum("(if 1<2?1+1:6 end)", 2);
-        sum("if if 1<2?1:2 end<2?if 1>2?3:4 end:5 end", 4);
-        faulty("smoke ();", 1, 7);
-        faulty("smoke (1;", 1, 8);
-        faulty("smoke (1;)", 1, 8);
-        faulty("smoke 1);", 1, 7);
-        faulty("smoke -;", 1, 7);
-        faulty("smoke if?1:2 end;", 1, 8);
-        faulty("smoke if 1<2 1:2 end;", 1, 13);
-        faulty("smoke if 1<2?:2 end;", 1, 13);
-        faulty("smoke if 1<2?1 2 end;", 1, 15);
-        faulty("smoke if 1<2?1;", 1, 14);
-        faulty("smoke if 1<2?1:end;", 1, 15);
-        faulty("smoke if 1<2?1:2;", 1, 16);
-        faulty("smoke if 1<2?1<2:2 end;", 1, 14);
-        faulty("smoke end;", 1, 6);
-        faulty("smoke by;", 1, 6);
-        faulty("smoke smoke;", 1, 6);
-        faulty("smoke 1<2;", 1, 7);
+        check.sum("hour", 7);
+        check.sum("(7)", 7);
+        check.sum("(3+4)*2", 14);
+        check.sum("40-(3+4)", 33);
+        check.sum("-5+9", 4);
+        check.sum("--5", 5);
+        check.sum("-(2-9)", 7);
+        check.sum("-if 1<2?0-5:6 end", 5);
+        check.sum("if 1<2?5:6 end", 5);
+        check.sum("if 2<1?5:6 end*2", 12);
+        check.sum("(if 1<2?1+1:6 end)", 2);
+        check.sum("if if 1<2?1:2 end<2?if 1>2?3:4 end:5 end", 4);
+        check.fault("smoke ();", 1, 7);
+        check.fault("smoke (1;", 1, 8);
+        check.fault("smoke (1;)", 1, 8);
+        check.fault("smoke 1);", 1, 7);
+        check.fault("smoke -;", 1, 7);
+        check.fault("smoke if?1:2 end;", 1, 8);
+        check.fault("smoke if 1<2 1:2 end;", 1, 13);
+        check.fault("smoke if 1<2?:2 end;", 1, 13);
+        check.fault("smoke if 1<2?1 2 end;", 1, 15);
+        check.fault("smoke if 1<2?1;", 1, 14);
+        check.fault("smoke if 1<2?1:end;", 1, 15);
+        check.fault("smoke if 1<2?1:2;", 1, 16);
+        check.fault("smoke if 1<2?1<2:2 end;", 1, 14);
+        check.fault("smoke end;", 1, 6);
+        check.fault("smoke by;", 1, 6);
+        check.fault("smoke smoke;", 1, 6);
+        check.fault("smoke 1<2;", 1, 7);
     }
 
     private void eithers() {
         check.says(0, "EITHER: BOTH {or BOTH}");
-        sum("if 1=2 or 1=1?1:2 end", 1);
-        sum("if 1=1 or 1=2?1:2 end", 1);
-        sum("if 1=1 or 1=1?1:2 end", 1);
-        sum("if 1=2 or 1=2?1:2 end", 2);
-        sum("if 1=2 or 1=2 or 1=1?1:2 end", 1);
-        sum("if 1=1 or 1=1 and 1=2?1:2 end", 1);
-        sum("if 1=2 and 1=1 or 1=1?1:2 end", 1);
-        faulty("smoke if or 1=1?1:2 end;", 1, 9);
-        faulty("smoke if 1=1 or?1:2 end;", 1, 15);
-        faulty("smoke if 1=1 or or 1=1?1:2 end;", 1, 16);
-        faulty("smoke if 1 or 2=1?1:2 end;", 1, 11);
+        check.sum("if 1=2 or 1=1?1:2 end", 1);
+        check.sum("if 1=1 or 1=2?1:2 end", 1);
+        check.sum("if 1=1 or 1=1?1:2 end", 1);
+        check.sum("if 1=2 or 1=2?1:2 end", 2);
+        check.sum("if 1=2 or 1=2 or 1=1?1:2 end", 1);
+        check.sum("if 1=1 or 1=1 and 1=2?1:2 end", 1);
+        check.sum("if 1=2 and 1=1 or 1=1?1:2 end", 1);
+        check.fault("smoke if or 1=1?1:2 end;", 1, 9);
+        check.fault("smoke if 1=1 or?1:2 end;", 1, 15);
+        check.fault("smoke if 1=1 or or 1=1?1:2 end;", 1, 16);
+        check.fault("smoke if 1 or 2=1?1:2 end;", 1, 11);
     }
 
     private void boths() {
         check.says(0, "BOTH: ASK {and ASK}");
-        sum("if 1=1 and 1=1?1:2 end", 1);
-        sum("if 1=1 and 1=2?1:2 end", 2);
-        sum("if 1=2 and 1=1?1:2 end", 2);
-        sum("if 1=2 and 1=2?1:2 end", 2);
-        sum("if 1=1 and 1=1 and 1=2?1:2 end", 2);
-        faulty("smoke if and 1=1?1:2 end;", 1, 9);
-        faulty("smoke if 1=1 and?1:2 end;", 1, 16);
-        faulty("smoke if 1 and 2=1?1:2 end;", 1, 11);
+        check.sum("if 1=1 and 1=1?1:2 end", 1);
+        check.sum("if 1=1 and 1=2?1:2 end", 2);
+        check.sum("if 1=2 and 1=1?1:2 end", 2);
+        check.sum("if 1=2 and 1=2?1:2 end", 2);
+        check.sum("if 1=1 and 1=1 and 1=2?1:2 end", 2);
+        check.fault("smoke if and 1=1?1:2 end;", 1, 9);
+        check.fault("smoke if 1=1 and?1:2 end;", 1, 16);
+        check.fault("smoke if 1 and 2=1?1:2 end;", 1, 11);
     }
 
     private void asks() {
@@ -280,23 +268,23 @@ final class GrammarEdges {
         int[][] due = {{1, 2, 2}, {1, 1, 2}, {2, 2, 1}, {2, 1, 1}, {2, 1, 2}, {1, 2, 1}};
         for (int i = 0; i < signs.length; i++) {
             for (int left = 6; left <= 8; left++) {
-                sum("if " + left + signs[i] + "hour?1:2 end", due[i][left - 6]);
-                sum("if not " + left + signs[i] + "hour?1:2 end", 3 - due[i][left - 6]);
-                sum("if not not " + left + signs[i] + "hour?1:2 end", due[i][left - 6]);
+                check.sum("if " + left + signs[i] + "hour?1:2 end", due[i][left - 6]);
+                check.sum("if not " + left + signs[i] + "hour?1:2 end", 3 - due[i][left - 6]);
+                check.sum("if not not " + left + signs[i] + "hour?1:2 end", due[i][left - 6]);
             }
         }
-        sum("if not 1=2 and 1=2?1:2 end", 2);
-        sum("if not 1=1 or 1=1?1:2 end", 1);
-        sum("if 1+2*3=14/2?1:2 end", 1);
-        sum("if (1)<(2)?1:2 end", 1);
-        faulty("smoke if 1?1:2 end;", 1, 10);
-        faulty("smoke if 1<2<3?1:2 end;", 1, 12);
-        faulty("smoke if (1<2)?1:2 end;", 1, 11);
-        faulty("smoke if not (1<2)?1:2 end;", 1, 15);
-        faulty("smoke if not?1:2 end;", 1, 12);
-        faulty("smoke if 1<not 2<3?1:2 end;", 1, 11);
-        faulty("smoke not 1<2;", 1, 6);
-        faulty("smoke if <2?1:2 end;", 1, 9);
+        check.sum("if not 1=2 and 1=2?1:2 end", 2);
+        check.sum("if not 1=1 or 1=1?1:2 end", 1);
+        check.sum("if 1+2*3=14/2?1:2 end", 1);
+        check.sum("if (1)<(2)?1:2 end", 1);
+        check.fault("smoke if 1?1:2 end;", 1, 10);
+        check.fault("smoke if 1<2<3?1:2 end;", 1, 12);
+        check.fault("smoke if (1<2)?1:2 end;", 1, 11);
+        check.fault("smoke if not (1<2)?1:2 end;", 1, 15);
+        check.fault("smoke if not?1:2 end;", 1, 12);
+        check.fault("smoke if 1<not 2<3?1:2 end;", 1, 11);
+        check.fault("smoke not 1<2;", 1, 6);
+        check.fault("smoke if <2?1:2 end;", 1, 9);
     }
 
     /** Which of smoke, cost, brittle and share have a name. */
@@ -304,7 +292,7 @@ final class GrammarEdges {
         for (String law : new String[] {"smoke", "cost", "brittle", "share"}) {
             for (String name : names) {
                 boolean has = laws.contains(law);
-                faulty(law + " " + name + ";", has ? 0 : 5, has ? -1 : law.length() + 1);
+                check.fault(law + " " + name + ";", has ? 0 : 5, has ? -1 : law.length() + 1);
             }
         }
     }

@@ -68,6 +68,19 @@ final class ImageEdges {
             x.later(40);
             x.begin(2);
         });
+        again("others blown", x -> {
+            for (int i = 0; i < 12; i++) {
+                x.undo();
+            }
+            x.begin(2);
+            x.begin(2);
+            x.begin(2);
+            x.begin(2);
+            for (int i = 0; i < 6; i++) {
+                x.blow(3 - i / 2, 2 - i / 2, 1);
+            }
+            x.later(1);
+        });
         again("a script", x -> x.played(1));
         again("one seen", x -> x.seen(40));
         again("none seen", x -> x.seen(-1));

@@ -20,11 +20,6 @@ final class LawEdges {
         bothSidesAndChoice();
     }
 
-    private void sum(String sum, int due) {
-        BreathOnLoan x = Check.ruledBy("smoke " + sum + ";");
-        check.same(sum, x.smoke(7), due);
-    }
-
     private void theTextRules() {
         check.says(9, "THE TEXT (NONE: none): true.");
         BreathOnLoan x = new BreathOnLoan();
@@ -59,14 +54,14 @@ final class LawEdges {
 
     private void smokeLaw() {
         check.says(0, "SMOKE: how many breaths the furnace allows in an HOUR: smoke (0 at least, 40 at most; without: 40)");
-        sum("0-1", 0);
-        sum("0-9999*9999", 0);
-        sum("0", 0);
-        sum("1", 1);
-        sum("39", 39);
-        sum("40", 40);
-        sum("41", 40);
-        sum("9999*9999", 40);
+        check.sum("0-1", 0);
+        check.sum("0-9999*9999", 0);
+        check.sum("0", 0);
+        check.sum("1", 1);
+        check.sum("39", 39);
+        check.sum("40", 40);
+        check.sum("41", 40);
+        check.sum("9999*9999", 40);
         check.same("no text", new BreathOnLoan().smoke(0), 40);
         check.same("a text without", Check.ruledBy("cost 5;wait 1;").smoke(0), 40);
         check.same("an empty text", Check.ruledBy("").smoke(0), 40);
@@ -156,70 +151,78 @@ final class LawEdges {
 
     private void fromTheLeft() {
         check.says(0, "From the left");
-        sum("20-5-3", 12);
-        sum("20-5+3", 18);
-        sum("40/4/5", 2);
-        sum("7/2*2", 6);
-        sum("2*7/4", 3);
-        sum("30-2*3-4", 20);
-        sum("1-2-3+30", 26);
+        check.sum("20-5-3", 12);
+        check.sum("20-5+3", 18);
+        check.sum("40/4/5", 2);
+        check.sum("7/2*2", 6);
+        check.sum("2*7/4", 3);
+        check.sum("30-2*3-4", 20);
+        check.sum("1-2-3+30", 26);
     }
 
     private void division() {
         check.says(0, "/ cuts towards 0, by 0 it is 0");
-        sum("7/2", 3);
-        sum("8/2", 4);
-        sum("1/2", 0);
-        sum("-7/2+9", 6);
-        sum("7/-2+9", 6);
-        sum("-7/-2", 3);
-        sum("-1/2+9", 9);
-        sum("7/0", 0);
-        sum("7/0+3", 3);
-        sum("-7/0+3", 3);
-        sum("0/0+3", 3);
-        sum("7/(3-3)*9+5", 5);
-        sum("7/(hour-7)+5", 5);
-        sum("7/(hour-8)+9", 2);
+        check.sum("7/2", 3);
+        check.sum("8/2", 4);
+        check.sum("1/2", 0);
+        check.sum("-7/2+9", 6);
+        check.sum("7/-2+9", 6);
+        check.sum("-7/-2", 3);
+        check.sum("-1/2+9", 9);
+        check.sum("7/0", 0);
+        check.sum("7/0+3", 3);
+        check.sum("-7/0+3", 3);
+        check.sum("0/0+3", 3);
+        check.sum("7/(3-3)*9+5", 5);
+        check.sum("7/(hour-7)+5", 5);
+        check.sum("7/(hour-8)+9", 2);
     }
 
     /** 999*1000+999 is one less than what is cut. */
     private void cutAtEachStep() {
         check.says(0, "what is above 1000000 (below the same less) is that, at each step");
-        sum("999*1000+999-(999*1000+998)", 1);
-        sum("999*1000+999+1-(999*1000+999)", 1);
-        sum("999*1000+999+2-(999*1000+999)", 1);
-        sum("1000*1000-(999*1000+999)", 1);
-        sum("1000*1001-(999*1000+999)", 1);
-        sum("9999*9999-(999*1000+999)", 1);
-        sum("1000*1000*(1000*1000)-(999*1000+999)", 1);
-        sum("1000*1000+1000*1000-(999*1000+999)", 1);
-        sum("1000*1000*2/2-(499*1000+999)", 1);
-        sum("1000*1000*3/2-(499*1000+999)", 1);
-        sum("-(999*1000+999)+(999*1000+999)+5", 5);
-        sum("-(999*1000+999)-1+(999*1000+999)+5", 4);
-        sum("-(999*1000+999)-2+(999*1000+999)+5", 4);
-        sum("-1000*1000+(999*1000+999)+5", 4);
-        sum("-1000*1001+(999*1000+999)+5", 4);
-        sum("-9999*9999+(999*1000+999)+5", 4);
-        sum("-1000*1000*(1000*1000)+(999*1000+999)+5", 4);
-        sum("-1000*1000-1000*1000+(999*1000+999)+5", 4);
-        sum("1000*1000--1000*1000-(999*1000+999)", 1);
-        sum("-(-1000*1001)-(999*1000+999)", 1);
-        sum("if 1000*1001=1000*1000?1:2 end", 1);
-        sum("if 999*1000+999=1000*1000?1:2 end", 2);
+        check.sum("999*1000+999-(999*1000+998)", 1);
+        check.sum("999*1000+999+1-(999*1000+999)", 1);
+        check.sum("999*1000+999+2-(999*1000+999)", 1);
+        check.sum("1000*1000-(999*1000+999)", 1);
+        check.sum("1000*1001-(999*1000+999)", 1);
+        check.sum("9999*9999-(999*1000+999)", 1);
+        check.sum("1000*1000*(1000*1000)-(999*1000+999)", 1);
+        check.sum("1000*1000+1000*1000-(999*1000+999)", 1);
+        check.sum("1000*1000*2/2-(499*1000+999)", 1);
+        check.sum("1000*1000*3/2-(499*1000+999)", 1);
+        check.sum("-(999*1000+999)+(999*1000+999)+5", 5);
+        check.sum("-(999*1000+999)-1+(999*1000+999)+5", 4);
+        check.sum("-(999*1000+999)-2+(999*1000+999)+5", 4);
+        check.sum("-1000*1000+(999*1000+999)+5", 4);
+        check.sum("-1000*1001+(999*1000+999)+5", 4);
+        check.sum("-9999*9999+(999*1000+999)+5", 4);
+        check.sum("-1000*1000*(1000*1000)+(999*1000+999)+5", 4);
+        check.sum("-1000*1000-1000*1000+(999*1000+999)+5", 4);
+        check.sum("1000*1000--1000*1000-(999*1000+999)", 1);
+        check.sum("-(-1000*1001)-(999*1000+999)", 1);
+        check.sum("if 1000*1001=1000*1000?1:2 end", 1);
+        check.sum("if 999*1000+999=1000*1000?1:2 end", 2);
     }
 
     private void bothSidesAndChoice() {
         check.says(0, "or and and look at both sides always");
-        sum("if 1=1 or 1/0=1?3:4 end", 3);
-        sum("if 1=2 and 1/0=1?3:4 end", 4);
-        sum("if 1=2 or 1=1 and 2=2?3:4 end", 3);
+        check.sum("if 1=1 or 1/0=1?3:4 end", 3);
+        check.sum("if 1=2 and 1/0=1?3:4 end", 4);
+        check.sum("if 1=2 or 1=1 and 2=2?3:4 end", 3);
         check.says(0, "of if just the SUM that is chosen is worked");
-        sum("if hour=7?3:4/0 end", 3);
-        sum("if hour=8?3/0:4 end", 4);
-        sum("if hour=7?if hour=8?1:2 end:if hour=7?3:4 end end", 2);
-        sum("if hour=8?if hour=8?1:2 end:if hour=7?3:4 end end", 3);
-        sum("10+if hour=8?1:2 end*if hour=7?3:4 end-1", 15);
+        check.sum("if hour=7?3:4/0 end", 3);
+        check.sum("if hour=8?3/0:4 end", 4);
+        check.sum("if hour=7?if hour=8?1:2 end:if hour=7?3:4 end end", 2);
+        check.sum("if hour=8?if hour=8?1:2 end:if hour=7?3:4 end end", 3);
+        check.sum("10+if hour=8?1:2 end*if hour=7?3:4 end-1", 15);
+        for (String choice : new String[] {"if hour=7?3:4 end", "if hour=7?1+2:4 end", "if hour=7?3:4+5 end", "if hour=8?4:3 end",
+            "if hour=8?4:1+2 end", "if hour=8?4+5:3 end", "if hour+0=7?3:4 end"}) {
+            check.sum(choice + "+10", 13);
+            check.sum(choice + "-1-1", 1);
+            check.sum("1+" + choice + "+10", 14);
+            check.sum("1+1+" + choice + "+10", 15);
+            check.sum("1+1*" + choice + "*2", 7);
+        }
     }
 }

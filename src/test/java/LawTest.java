@@ -62,34 +62,34 @@ public final class LawTest {
     }
 
     private static void sumsAreWorkedFromTheLeft() {
-        sum("20-5-3", 12);
-        sum("2+3*4", 14);
-        sum("(2+3)*4", 20);
-        sum("100/10/5", 2);
-        sum("7/2*2", 6);
-        sum("0-7/2+10", 7);
-        sum("(0-7)/2+10", 7);
-        sum("-7/2+10", 7);
-        sum("10- -3", 13);
-        sum("--5", 5);
-        sum("-2*-3", 6);
-        sum("5/0+1", 1);
-        sum("9/(3-3)*4+2", 2);
-        sum("if 1<2?3:4 end+10", 13);
-        sum("if 2<1?3:4 end*2", 8);
-        sum("if 1=1?if 1=2?3:4 end:5 end", 4);
-        sum("if 1=2?if 1=2?3:4 end:5 end", 5);
-        sum("hour*3", 21);
+        CHECK.sum("20-5-3", 12);
+        CHECK.sum("2+3*4", 14);
+        CHECK.sum("(2+3)*4", 20);
+        CHECK.sum("100/10/5", 2);
+        CHECK.sum("7/2*2", 6);
+        CHECK.sum("0-7/2+10", 7);
+        CHECK.sum("(0-7)/2+10", 7);
+        CHECK.sum("-7/2+10", 7);
+        CHECK.sum("10- -3", 13);
+        CHECK.sum("--5", 5);
+        CHECK.sum("-2*-3", 6);
+        CHECK.sum("5/0+1", 1);
+        CHECK.sum("9/(3-3)*4+2", 2);
+        CHECK.sum("if 1<2?3:4 end+10", 13);
+        CHECK.sum("if 2<1?3:4 end*2", 8);
+        CHECK.sum("if 1=1?if 1=2?3:4 end:5 end", 4);
+        CHECK.sum("if 1=2?if 1=2?3:4 end:5 end", 5);
+        CHECK.sum("hour*3", 21);
     }
 
     private static void sumsAreCutAtAMillion() {
-        sum("1000*1000-9999*100-90", 10);
-        sum("9999*9999-9999*100-90", 10);
-        sum("9999*9999*9999/9999-75", 25);
-        sum("-9999*9999+9999*100+120", 20);
-        sum("9999*100+99+9999-9999*100-90", 10);
-        sum("0-9999*9999-9999+9999*100+120", 20);
-        sum("-(9999*9999)+9999*9999+5", 5);
+        CHECK.sum("1000*1000-9999*100-90", 10);
+        CHECK.sum("9999*9999-9999*100-90", 10);
+        CHECK.sum("9999*9999*9999/9999-75", 25);
+        CHECK.sum("-9999*9999+9999*100+120", 20);
+        CHECK.sum("9999*100+99+9999-9999*100-90", 10);
+        CHECK.sum("0-9999*9999-9999+9999*100+120", 20);
+        CHECK.sum("-(9999*9999)+9999*9999+5", 5);
     }
 
     private static void asksAreAnswered() {
@@ -113,11 +113,6 @@ public final class LawTest {
         ask("1=2 or 1=2", false);
         ask("1=1 and not 1=2 and 3>2", true);
         ask("1+1=2*1", true);
-    }
-
-    private static void sum(String sum, int due) {
-        BreathOnLoan x = Check.ruledBy("smoke " + sum + ";");
-        CHECK.same(sum, x.smoke(7), due);
     }
 
     private static void ask(String ask, boolean due) {

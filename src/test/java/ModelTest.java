@@ -1,9 +1,14 @@
 import java.util.Random;
 
-/** All promises: long runs of calls, drawn by fixed seeds, must have the answers of the slow second building. */
+/**
+ * All promises: long runs of calls, drawn by fixed seeds, must have the answers of the slow second building.
+ * No object gets more than 512 calls: what later ones answer is free.
+ */
 public final class ModelTest {
-    private static final int RUNS = 400;
-    private static final int CALLS = 500;
+    private static final int RUNS = 2500;
+    private static final int CALLS = 512;
+    private static final int CALLS_AT_ONCE = 30;
+    private static final int LAST_LOOK = 120;
     private static final Check CHECK = new Check();
 
     private final Random draw;
@@ -36,16 +41,15 @@ public final class ModelTest {
         for (int i = draw.nextInt(7); i > 0; i--) {
             kind();
         }
-        for (call = 0; call < CALLS; call++) {
+        while (call < CALLS - LAST_LOOK - CALLS_AT_ONCE) {
             any();
-            if (call % 50 == 49) {
-                everything();
-            }
         }
+        everything();
     }
 
     private void same(String what, long got, long due) {
         CHECK.same("run " + run + ", call " + call + ": " + what, got, due);
+        call++;
     }
 
     /** Mostly within the edges, sometimes far outside. */
@@ -183,25 +187,24 @@ public final class ModelTest {
         same("liars", x.liars(), m.liars());
     }
 
+    /** Some of all that can be asked, as many as there are calls left. */
     private void everything() {
-        for (int what = -1; what < 30; what++) {
-            same("about(" + what + ")", x.about(what), m.about(what));
-            for (int i = -1; i < 10; i++) {
-                same("piece(" + i + ", " + what + ")", x.piece(i, what), m.piece(i, what));
-                same("of(" + i + ", " + what + ")", x.of(i, what), m.of(i, what));
+        while (call < CALLS) {
+            int what = draw.nextInt(27) - 1;
+            int p = draw.nextInt(m.about(2) + 1);
+            int b = draw.nextInt(m.about(0) + 1);
+            int i = draw.nextInt(m.bubble(-1, 0) + 1);
+            int done = done() & draw.nextInt(1024);
+            switch (draw.nextInt(8)) {
+                case 0 -> same("about(" + what + ")", x.about(what), m.about(what));
+                case 1 -> same("piece(" + p + ", " + what + ")", x.piece(p, what), m.piece(p, what));
+                case 2 -> same("of(" + b + ", " + what % 6 + ")", x.of(b, what % 6), m.of(b, what % 6));
+                case 3 -> same("bubble(" + i + ", " + what % 5 + ")", x.bubble(i, what % 5), m.bubble(i, what % 5));
+                case 4 -> same("whose(" + what + ")", x.whose(what), m.whose(what));
+                case 5 -> same("upper of " + done, x.odds(done, 0), m.odds(done, 0));
+                case 6 -> same("lower of " + done, x.odds(done, 1), m.odds(done, 1));
+                default -> same("undo", x.undo(), m.undo());
             }
-        }
-        for (int i = -1; i < 41; i++) {
-            for (int what = 0; what < 4; what++) {
-                same("bubble(" + i + ", " + what + ")", x.bubble(i, what), m.bubble(i, what));
-            }
-            same("whose(" + i + ")", x.whose(i), m.whose(i));
-        }
-        for (int set = 0; set < 1 << m.about(2); set += 1 + draw.nextInt(9)) {
-            int done = set & done();
-            same("odds(" + set + ", 0)", x.odds(set, 0), m.odds(set, 0));
-            same("odds(" + done + ", 0)", x.odds(done, 0), m.odds(done, 0));
-            same("odds(" + done + ", 1)", x.odds(done, 1), m.odds(done, 1));
         }
     }
 

@@ -10,6 +10,7 @@ final class OddsEdges {
         theBrittleLaw();
         asOfNow();
         namesOfBrittle();
+        allSixQuarrel();
         apartFromTheOthers();
         allAreDone();
         lowestTerms();
@@ -102,6 +103,28 @@ final class OddsEdges {
         pair("want 3", done("brittle want;"), 2, 7, 10);
         pair("worth 2", done("brittle worth;"), 1, 4, 5);
         pair("worth 5", done("brittle worth;"), 2, 1, 2);
+    }
+
+    private void allSixQuarrel() {
+        BreathOnLoan x = Check.ruledBy("cost 0;brittle quarrels/2;");
+        for (int b = 0; b < 6; b++) {
+            x.blower(9, 0, 0);
+        }
+        x.kind(6, 0, 0);
+        x.begin(0);
+        for (int b = 0; b < 6; b++) {
+            x.blow(0, b, 1);
+            for (int other = 0; other < b; other++) {
+                x.quarrel(b, other, true);
+            }
+        }
+        pair("15 pairs, 7 of 10", x, 1, 3, 10);
+        x.quarrel(0, 5, false);
+        x.quarrel(5, 4, false);
+        pair("13 pairs, 6 of 10", x, 1, 2, 5);
+        Check.read(x, "brittle many;");
+        x.by(1);
+        pair("six gave some", x, 1, 2, 5);
     }
 
     private void apartFromTheOthers() {

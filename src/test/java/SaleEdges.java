@@ -16,6 +16,7 @@ final class SaleEdges {
         beadsAreThoseAhead();
         withoutShares();
         beadsAboveAreLost();
+        allSixShare();
         theAnswer();
     }
 
@@ -164,6 +165,27 @@ final class SaleEdges {
         check.same("what the first can't have the other hasn't", x.sell(0), 499);
         check.same("999", x.of(0, 2), 999);
         check.same("499", x.of(1, 2), 499);
+    }
+
+    private void allSixShare() {
+        BreathOnLoan x = Check.ruledBy("cost blower/5;share blower+1;");
+        for (int b = 0; b < 6; b++) {
+            x.blower(9, b % 4, b);
+        }
+        x.kind(30, 15, 210);
+        x.begin(0);
+        for (int b = 0; b < 6; b++) {
+            x.blow(0, b, 5);
+        }
+        check.same("by 1 to 6 of 21", x.sell(0), 210);
+        for (int b = 0; b < 6; b++) {
+            check.same("beads of " + b, x.of(b, 2), 10 * (b + 1) + b % 5);
+        }
+        x.undo();
+        for (int b = 0; b < 6; b++) {
+            check.same("beads of " + b + " again", x.of(b, 2), b % 5);
+        }
+        check.same("not sold", x.piece(0, 3), 0);
     }
 
     private void theAnswer() {

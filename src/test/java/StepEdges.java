@@ -23,6 +23,8 @@ final class StepEdges {
         playedOthers();
         eachIsAStep();
         whatIsNoStep();
+        aSaleOfMany();
+        eachKeepsItsOwnBeads();
         theLatestFirst();
         thirtySteps();
         theRingGoesAround();
@@ -207,6 +209,52 @@ final class StepEdges {
         noStep("coughs", x -> x.coughs(1, 1, 1, 1));
         noStep("a plan", x -> x.plan(7, 9, -1));
         noStep("what can't be", x -> x.blow(0, 0, 1));
+    }
+
+    private void aSaleOfMany() {
+        BreathOnLoan x = with("");
+        for (int p = 0; p < 3; p++) {
+            x.begin(1);
+            x.later(1);
+            x.blow(p, 0, 5);
+            x.sell(p);
+        }
+        check.same("the latest sale", x.undo(), 11);
+        check.same("0 is sold", x.piece(0, 3), 1);
+        check.same("1 is sold", x.piece(1, 3), 1);
+        check.same("2 isn't", x.piece(2, 3), 0);
+        check.same("it can be sold", x.sell(2), 50);
+        check.same("1 can't", x.sell(1), -1);
+        BreathOnLoan y = Scene.busy();
+        check.same("the sale of 3", y.undo(), 11);
+        check.same("3 isn't sold", y.piece(3, 3), 0);
+    }
+
+    /** A step that comes where another was taken back, or 30 steps behind it, has nothing of its beads. */
+    private void eachKeepsItsOwnBeads() {
+        BreathOnLoan x = with("");
+        x.begin(0);
+        x.blow(0, 0, 3);
+        x.undo();
+        x.later(1);
+        x.undo();
+        check.same("an hour in place of a bubble", x.of(0, 2), 99);
+        x.blow(0, 0, 3);
+        x.undo();
+        x.blow(0, 1, 2);
+        x.undo();
+        check.same("another's bubble", x.of(0, 2), 99);
+        check.same("his own", x.of(1, 2), 50);
+        BreathOnLoan y = with("");
+        y.begin(0);
+        y.blow(0, 0, 3);
+        y.blow(0, 1, 2);
+        y.later(60);
+        for (int i = 0; i < 30; i++) {
+            y.undo();
+        }
+        check.same("what is beyond 30 stays paid", y.of(0, 2), 96);
+        check.same("by both", y.of(1, 2), 48);
     }
 
     private void theLatestFirst() {

@@ -11,6 +11,7 @@ final class TapeEdges {
         bytesAreBytes();
         threeHundredBytes();
         theTapeIsCut();
+        aTokenIsCut();
         theTapeIsNotCut();
         aTapeIsAText();
         aTextOf300Bytes();
@@ -91,6 +92,36 @@ final class TapeEdges {
         check.same("none of twenty", y.end(0), 0);
         check.same("an empty text", y.text(), 0);
         check.same("it has no fault", y.fault(0), 0);
+    }
+
+    /** What was behind the end is read no more, though a token could go on there. */
+    private void aTokenIsCut() {
+        cut("waits 1;", 4, 1, 4);
+        cut("smoke hours;", 10, 1, 10);
+        cut("begin 12;", 7, 1, 7);
+        cut("wait 100;", 7, 1, 7);
+        cut("smoke 99999;", 10, 1, 10);
+        cut("smoke if 1<=2", 11, 1, 11);
+        cut("smoke if 1>=2", 11, 1, 11);
+        cut("wait 1;wait 100;", 7, 0, -1);
+        cut("wait 1;   ;", 10, 0, -1);
+        for (String last : new String[] {"x", "smoke", "9", "<", ">", "<=", "(", "!"}) {
+            cut(" ".repeat(300 - last.length()) + last, 300, 1, last.equals("smoke") ? 300 : 300 - last.length());
+        }
+        cut("smoke 1" + " ".repeat(292) + "9", 300, 1, 299);
+        cut("wait" + " ".repeat(295) + "9", 300, 1, 300);
+        cut("smoke if 1" + " ".repeat(289) + "<", 300, 1, 300);
+        cut("smoke" + "e".repeat(295), 300, 1, 0);
+        cut("smoke " + "9".repeat(294), 300, 2, 6);
+    }
+
+    private void cut(String text, int n, int fault, int place) {
+        BreathOnLoan x = new BreathOnLoan();
+        Check.put(x, text);
+        check.same("cut '" + text + "'", x.end(n), n);
+        check.same("text of '" + text + "', cut", x.text(), fault == 0 ? 0 : -1);
+        check.same("fault of '" + text + "', cut", x.fault(0), fault);
+        check.same("place in '" + text + "', cut", x.fault(1), place);
     }
 
     private void theTapeIsNotCut() {
