@@ -45,14 +45,16 @@ enum Look {
         for (int what = 0; what < 26; what++) {
             seen.add("about " + what + " " + x.about(what));
         }
-        for (int b = 0; b < x.about(0); b++) {
+        int blowers = x.about(0);
+        int pieces = x.about(2);
+        for (int b = 0; b < blowers; b++) {
             for (int what = 0; what < 5; what++) {
                 seen.add("of " + b + " " + what + " " + x.of(b, what));
             }
             seen.add("cost " + b + " " + x.cost(b, 1));
         }
-        for (int p = 0; p < x.about(2); p++) {
-            for (int what = 0; what < 10 + x.about(0); what += what == 3 ? 7 : 1) {
+        for (int p = 0; p < pieces; p++) {
+            for (int what = 0; what < 10 + blowers; what += what == 3 ? 7 : 1) {
                 seen.add("piece " + p + " " + what + " " + x.piece(p, what));
             }
             seen.add("odds " + p + " " + x.odds(1 << p, 0));
@@ -81,9 +83,10 @@ enum Look {
 
     private static List<String> steps(BreathOnLoan x) {
         List<String> seen = new ArrayList<>();
+        int blowers = x.about(0);
         for (int turn = 0; turn < 31; turn++) {
             seen.add("undo " + x.undo() + ", pieces " + x.about(2) + ", hour " + x.about(3) + ", bubbles " + x.bubble(-1, 0));
-            for (int b = 0; b < x.about(0); b++) {
+            for (int b = 0; b < blowers; b++) {
                 seen.add("beads " + x.of(b, 2));
             }
         }

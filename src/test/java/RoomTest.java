@@ -4,7 +4,7 @@ import java.lang.management.ManagementFactory;
 /** Every call may be made as often as one object is used within a small room: what is made is counted in bytes. */
 public final class RoomTest {
     private static final long MOST_BYTES = 4000000;
-    private static final int CALLS = 450;
+    private static final int CALLS = 430;
     private static final Check CHECK = new Check();
     private static final ThreadMXBean BEAN = (ThreadMXBean) ManagementFactory.getThreadMXBean();
 
