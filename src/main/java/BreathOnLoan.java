@@ -1231,11 +1231,11 @@ public final class BreathOnLoan {
         }
 
         private static boolean isLetter(int b) {
-            return within(b, 'a', 'z') || within(b, 'A', 'Z');
+            return b >= 'a' && b <= 'z' || b >= 'A' && b <= 'Z';
         }
 
         private static boolean isDigit(int b) {
-            return within(b, '0', '9');
+            return b >= '0' && b <= '9';
         }
     }
 
